@@ -38,6 +38,7 @@ public final class PromisesTest {
         would();
         wouldAfterPartOfAnUndoing();
         left();
+        leftFromTheShelf();
         mean();
         digest();
         System.out.println(wrong == 0 ? "all promises hold" : wrong + " answers are wrong");
@@ -480,11 +481,21 @@ public final class PromisesTest {
         x.begin();
         x.fall();
         dishIs(x, 2, 3, 0, 0, 0, -1);
+        dishHoldsAllPots();
         for (int bad : new int[] {-1, 3, 20, Integer.MIN_VALUE, Integer.MAX_VALUE}) {
             refused(x, INDEX, "dish(" + bad + ", 0)", () -> x.dish(bad, 0));
         }
         for (int bad : new int[] {-1, 5, Integer.MIN_VALUE, Integer.MAX_VALUE}) {
             refused(x, INDEX, "dish(0, " + bad + ")", () -> x.dish(0, bad));
+        }
+    }
+
+    private static void dishHoldsAllPots() {
+        ChalkSlate x = new ChalkSlate();
+        x.begin();
+        for (int pot = 0; pot < 8; pot++) {
+            x.cook(0, pot, 0);
+            dishIs(x, 0, 0, pot + 2, pot + 1, pot + 1, pot + 1);
         }
     }
 
@@ -625,6 +636,26 @@ public final class PromisesTest {
         for (int bad : WRONG_POTS) {
             refused(x, INDEX, "left(" + bad + ")", () -> x.left(bad));
         }
+    }
+
+    private static void leftFromTheShelf() {
+        promise = "14 left";
+        ChalkSlate x = new ChalkSlate();
+        x.begin();
+        x.cook(0, 5, 10);
+        x.finish(0);
+        x.begin();
+        x.blow();
+        x.cook(1, 5, 30);
+        due("left(5) done anew, behind it a line that is not dry", x.left(5), 10);
+        x.drop(1);
+        x.shelve(5);
+        x.begin();
+        x.cook(2, 5, 50);
+        due("left(5) as on the shelf", x.left(5), 10);
+        due("pot(5, 0)", x.pot(5, 0), 50);
+        x.fall();
+        due("pot(5, 0) after the fall", x.pot(5, 0), 10);
     }
 
     // ---- promise 15
