@@ -1,17 +1,6 @@
 /** For each promise of the document: ordinary inputs, its edges, and wrong inputs. */
-public final class PromisesTest {
-    private static final String NOTHING = "nothing";
-    private static final String INDEX = "IndexOutOfBoundsException";
-    private static final String ARGUMENT = "IllegalArgumentException";
-    private static final String STATE = "IllegalStateException";
+public final class PromisesTest extends Checks {
     private static final int[] WRONG_POTS = {-1, 8, Integer.MIN_VALUE, Integer.MAX_VALUE};
-
-    private static int wrong = 0;
-    private static String promise = "";
-
-    private interface Call {
-        void run();
-    }
 
     public static void main(String[] args) {
         newObject();
@@ -41,16 +30,13 @@ public final class PromisesTest {
         leftFromTheShelf();
         mean();
         digest();
-        System.out.println(wrong == 0 ? "all promises hold" : wrong + " answers are wrong");
-        if (wrong != 0) {
-            System.exit(1);
-        }
+        endWith("all promises hold");
     }
 
     // ---- promise 1
 
     private static void newObject() {
-        promise = "1 a new object";
+        says("Promise 1", "a new object");
         ChalkSlate x = new ChalkSlate();
         counts(x, 0, 0, 0, 0, 0, 0, 0, 120, 0, 0, 0);
         for (int pot = 0; pot < 8; pot++) {
@@ -66,7 +52,7 @@ public final class PromisesTest {
     // ---- promise 2
 
     private static void begin() {
-        promise = "2 begin";
+        says("Promise 2", "begin");
         ChalkSlate x = new ChalkSlate();
         for (int dish = 0; dish < 20; dish++) {
             due("begin()", x.begin(), dish);
@@ -81,10 +67,10 @@ public final class PromisesTest {
     }
 
     private static void beginWithoutRoom() {
-        promise = "2 begin";
+        says("Promise 2", "begin");
         ChalkSlate x = new ChalkSlate();
         x.begin();
-        cookTimes(x, 0, 58);
+        Kitchens.cookTimes(x, 0, 58);
         due("count(7)", x.count(7), 2);
         due("begin() with room 2", x.begin(), 1);
         due("count(7)", x.count(7), 0);
@@ -96,7 +82,7 @@ public final class PromisesTest {
         y.begin();
         y.finish(0);
         y.begin();
-        cookTimes(y, 1, 57);
+        Kitchens.cookTimes(y, 1, 57);
         due("count(7)", y.count(7), 2);
         y.cook(1, 0, 5);
         due("count(7)", y.count(7), 0);
@@ -106,7 +92,7 @@ public final class PromisesTest {
     // ---- promise 3
 
     private static void cook() {
-        promise = "3 cook";
+        says("Promise 3", "cook");
         ChalkSlate x = new ChalkSlate();
         x.begin();
         x.begin();
@@ -125,7 +111,7 @@ public final class PromisesTest {
     }
 
     private static void cookWrongly() {
-        promise = "3 cook";
+        says("Promise 3", "cook");
         ChalkSlate x = new ChalkSlate();
         refused(x, INDEX, "cook(0, 0, 0) without dishes", () -> x.cook(0, 0, 0));
         x.begin();
@@ -156,10 +142,10 @@ public final class PromisesTest {
     }
 
     private static void cookWithoutRoom() {
-        promise = "3 cook";
+        says("Promise 3", "cook");
         ChalkSlate x = new ChalkSlate();
         x.begin();
-        cookTimes(x, 0, 59);
+        Kitchens.cookTimes(x, 0, 59);
         due("count(0)", x.count(0), 60);
         due("count(7)", x.count(7), 0);
         refused(x, STATE, "cook with room 0", () -> x.cook(0, 0, 1));
@@ -173,14 +159,14 @@ public final class PromisesTest {
         y.finish(0);
         for (int dish = 1; dish < 4; dish++) {
             y.begin();
-            cookTimes(y, dish, 28);
+            Kitchens.cookTimes(y, dish, 28);
             y.finish(dish);
         }
         y.begin();
         y.cook(4, 0, 1);
         y.finish(4);
         y.begin();
-        cookTimes(y, 5, 11);
+        Kitchens.cookTimes(y, 5, 11);
         due("count(7)", y.count(7), 1);
         refused(y, STATE, "cook with room 1", () -> y.cook(5, 0, 1));
         refused(y, STATE, "begin with room 1", () -> y.begin());
@@ -191,7 +177,7 @@ public final class PromisesTest {
     // ---- promise 4
 
     private static void finish() {
-        promise = "4 finish";
+        says("Promise 4", "finish");
         ChalkSlate x = new ChalkSlate();
         refused(x, INDEX, "finish(0) without dishes", () -> x.finish(0));
         x.begin();
@@ -220,7 +206,7 @@ public final class PromisesTest {
     // ---- promise 5
 
     private static void drop() {
-        promise = "5 drop";
+        says("Promise 5", "drop");
         ChalkSlate x = new ChalkSlate();
         refused(x, INDEX, "drop(0) without dishes", () -> x.drop(0));
         x.begin();
@@ -252,11 +238,11 @@ public final class PromisesTest {
     }
 
     private static void dropHasRoom() {
-        promise = "5 drop";
+        says("Promise 5", "drop");
         ChalkSlate x = new ChalkSlate();
         x.begin();
         x.begin();
-        cookTimes(x, 1, 29);
+        Kitchens.cookTimes(x, 1, 29);
         for (int i = 0; i < 29; i++) {
             x.cook(0, 1, 100 + i);
         }
@@ -271,7 +257,7 @@ public final class PromisesTest {
     // ---- promise 6
 
     private static void shelve() {
-        promise = "6 shelve";
+        says("Promise 6", "shelve");
         ChalkSlate x = new ChalkSlate();
         for (int bad : WRONG_POTS) {
             refused(x, INDEX, "shelve(" + bad + ")", () -> x.shelve(bad));
@@ -298,7 +284,7 @@ public final class PromisesTest {
     }
 
     private static void shelveWithinAnUndoing() {
-        promise = "6 shelve";
+        says("Promise 6", "shelve");
         ChalkSlate x = new ChalkSlate();
         x.begin();
         x.cook(0, 0, 5);
@@ -320,7 +306,7 @@ public final class PromisesTest {
     // ---- promise 7
 
     private static void blow() {
-        promise = "7 blow";
+        says("Promise 7", "blow");
         ChalkSlate x = new ChalkSlate();
         due("blow() upon an empty slate", x.blow(), 0);
         x.begin();
@@ -340,7 +326,7 @@ public final class PromisesTest {
     // ---- promise 8
 
     private static void fall() {
-        promise = "8 fall";
+        says("Promise 8", "fall");
         ChalkSlate x = new ChalkSlate();
         due("fall() of an empty stove", x.fall(), 0);
         due("count(10)", x.count(10), 1);
@@ -365,7 +351,7 @@ public final class PromisesTest {
     }
 
     private static void fallReopensDishes() {
-        promise = "8 fall";
+        says("Promise 8", "fall");
         ChalkSlate x = new ChalkSlate();
         x.begin();
         x.cook(0, 4, 44);
@@ -385,7 +371,7 @@ public final class PromisesTest {
     }
 
     private static void fallOrder() {
-        promise = "8 fall";
+        says("Promise 8", "fall");
         ChalkSlate x = new ChalkSlate();
         x.begin();
         x.begin();
@@ -405,7 +391,7 @@ public final class PromisesTest {
     }
 
     private static void fallKeepsFinished() {
-        promise = "8 fall";
+        says("Promise 8", "fall");
         ChalkSlate x = new ChalkSlate();
         x.begin();
         x.cook(0, 0, 50);
@@ -427,10 +413,10 @@ public final class PromisesTest {
     }
 
     private static void fallRoom() {
-        promise = "8 fall";
+        says("Promise 8", "fall");
         ChalkSlate x = new ChalkSlate();
         x.begin();
-        cookTimes(x, 0, 59);
+        Kitchens.cookTimes(x, 0, 59);
         x.blow();
         for (int i = 1; i <= 3; i++) {
             due("fall() with room 0", x.fall(), 59);
@@ -441,7 +427,7 @@ public final class PromisesTest {
     // ---- promise 9
 
     private static void pot() {
-        promise = "9 pot";
+        says("Promise 9", "pot");
         ChalkSlate x = new ChalkSlate();
         x.begin();
         x.begin();
@@ -463,7 +449,7 @@ public final class PromisesTest {
     // ---- promise 10
 
     private static void dish() {
-        promise = "10 dish";
+        says("Promise 10", "dish");
         ChalkSlate x = new ChalkSlate();
         refused(x, INDEX, "dish(0, 0) without dishes", () -> x.dish(0, 0));
         x.begin();
@@ -502,7 +488,7 @@ public final class PromisesTest {
     // ---- promise 11
 
     private static void line() {
-        promise = "11 line";
+        says("Promise 11", "line");
         ChalkSlate x = new ChalkSlate();
         refused(x, INDEX, "line(0, 0) of an empty slate", () -> x.line(0, 0));
         x.begin();
@@ -534,7 +520,7 @@ public final class PromisesTest {
     // ---- promise 12
 
     private static void count() {
-        promise = "12 count";
+        says("Promise 12", "count");
         ChalkSlate x = new ChalkSlate();
         x.begin();
         x.begin();
@@ -558,7 +544,7 @@ public final class PromisesTest {
     // ---- promise 13
 
     private static void would() {
-        promise = "13 would";
+        says("Promise 13", "would");
         ChalkSlate x = new ChalkSlate();
         x.begin();
         x.begin();
@@ -589,7 +575,7 @@ public final class PromisesTest {
     }
 
     private static void wouldAfterPartOfAnUndoing() {
-        promise = "13 would";
+        says("Promise 13", "would");
         ChalkSlate x = new ChalkSlate();
         x.begin();
         x.cook(0, 0, 5);
@@ -607,7 +593,7 @@ public final class PromisesTest {
     // ---- promise 14
 
     private static void left() {
-        promise = "14 left";
+        says("Promise 14", "left");
         ChalkSlate x = new ChalkSlate();
         x.begin();
         x.cook(0, 0, 10);
@@ -639,7 +625,7 @@ public final class PromisesTest {
     }
 
     private static void leftFromTheShelf() {
-        promise = "14 left";
+        says("Promise 14", "left");
         ChalkSlate x = new ChalkSlate();
         x.begin();
         x.cook(0, 5, 10);
@@ -661,7 +647,7 @@ public final class PromisesTest {
     // ---- promise 15
 
     private static void mean() {
-        promise = "15 mean";
+        says("Promise 15", "mean");
         ChalkSlate x = new ChalkSlate();
         x.begin();
         x.cook(0, 0, 1);
@@ -680,7 +666,7 @@ public final class PromisesTest {
     // ---- promise 16
 
     private static void digest() {
-        promise = "16 digest";
+        says("Promise 16", "digest");
         ChalkSlate x = new ChalkSlate();
         long d = 1291;
         int[] fresh = {0, 0, 0, 0, 0, 0, 0, 120, 0, 0, 0};
@@ -726,74 +712,5 @@ public final class PromisesTest {
             }
         }
         return d;
-    }
-
-    // ---- what the tests rest on
-
-    private static void cookTimes(ChalkSlate x, int dish, int times) {
-        for (int i = 0; i < times; i++) {
-            x.cook(dish, 0, i + 1);
-        }
-    }
-
-    private static void counts(ChalkSlate x, int... want) {
-        for (int what = 0; what < 11; what++) {
-            due("count(" + what + ")", x.count(what), want[what]);
-        }
-    }
-
-    private static void potIs(ChalkSlate x, int pot, int... want) {
-        for (int what = 0; what < 5; what++) {
-            due("pot(" + pot + ", " + what + ")", x.pot(pot, what), want[what]);
-        }
-    }
-
-    private static void dishIs(ChalkSlate x, int dish, int... want) {
-        for (int what = 0; what < 5; what++) {
-            due("dish(" + dish + ", " + what + ")", x.dish(dish, what), want[what]);
-        }
-    }
-
-    private static void lineIs(ChalkSlate x, int line, int... want) {
-        for (int what = 0; what < 7; what++) {
-            due("line(" + line + ", " + what + ")", x.line(line, what), want[what]);
-        }
-    }
-
-    private static void woulds(ChalkSlate x, int... want) {
-        for (int what = 0; what < 5; what++) {
-            due("would(" + what + ")", x.would(what), want[what]);
-        }
-    }
-
-    private static void refused(ChalkSlate x, String want, String name, Call call) {
-        long before = x.digest();
-        String got = NOTHING;
-        try {
-            call.run();
-        } catch (RuntimeException e) {
-            got = e.getClass().getSimpleName();
-        }
-        if (!got.equals(want)) {
-            tell(name + " threw " + got + ", due is " + want);
-        }
-        due(name + " changes nothing: digest()", x.digest(), before);
-    }
-
-    private static void due(String name, long got, long want) {
-        if (got != want) {
-            tell(name + " answered " + got + ", due is " + want);
-        }
-    }
-
-    private static void dueDouble(String name, double got, double want) {
-        if (got != want) {
-            tell(name + " answered " + got + ", due is " + want);
-        }
-    }
-
-    private static void tell(String text) {
-        wrong++;
-        System.out.println("promise " + promise + ": " + text);
     }
 }
