@@ -9,19 +9,19 @@ import java.util.TreeSet;
 /** The class shows the document's face, and nothing beside it. */
 public final class FaceTest {
     private static final String[] FACE = {
-        "public int begin()",
-        "public int cook(int, int, int)",
-        "public int finish(int)",
-        "public int drop(int)",
-        "public int shelve(int)",
+        "public int begin() throws IllegalStateException",
+        "public int cook(int, int, int) throws IndexOutOfBoundsException, IllegalArgumentException, IllegalStateException",
+        "public int finish(int) throws IndexOutOfBoundsException, IllegalStateException",
+        "public int drop(int) throws IndexOutOfBoundsException, IllegalStateException",
+        "public int shelve(int) throws IndexOutOfBoundsException",
         "public int blow()",
         "public int fall()",
-        "public int pot(int, int)",
-        "public int dish(int, int)",
-        "public int line(int, int)",
-        "public int count(int)",
-        "public int would(int)",
-        "public int left(int)",
+        "public int pot(int, int) throws IndexOutOfBoundsException",
+        "public int dish(int, int) throws IndexOutOfBoundsException",
+        "public int line(int, int) throws IndexOutOfBoundsException",
+        "public int count(int) throws IndexOutOfBoundsException",
+        "public int would(int) throws IndexOutOfBoundsException",
+        "public int left(int) throws IndexOutOfBoundsException",
         "public double mean()",
         "public long digest()",
     };
@@ -60,10 +60,19 @@ public final class FaceTest {
             if (!Modifier.isPrivate(method.getModifiers())) {
                 String parameters = Arrays.toString(method.getParameterTypes());
                 shown.add(Modifier.toString(method.getModifiers()) + " " + method.getReturnType() + " "
-                        + method.getName() + "(" + parameters.substring(1, parameters.length() - 1) + ")");
+                        + method.getName() + "(" + parameters.substring(1, parameters.length() - 1) + ")"
+                        + shownExceptions(method));
             }
         }
         return shown;
+    }
+
+    private static String shownExceptions(Method method) {
+        StringBuilder shown = new StringBuilder();
+        for (Class<?> exception : method.getExceptionTypes()) {
+            shown.append(shown.length() == 0 ? " throws " : ", ").append(exception.getSimpleName());
+        }
+        return shown.toString();
     }
 
     private static boolean hasNamesOfItsOwn(Class<?> face) {

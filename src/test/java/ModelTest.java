@@ -7,7 +7,7 @@ import java.util.List;
  * would() and left() by letting a copy of itself fall.
  */
 public final class ModelTest {
-    private static final int RUNS = 120;
+    private static final int RUNS = 200;
     private static final int CALLS = 512;
     private static final int LAST_CHANGER = 6;
     private static final int INDEX = -1_000_001;
